@@ -13,6 +13,8 @@ public final class ModelTests {
     private final SeedChains x;
     private final Model model;
     private final List<String> calls = new ArrayList<>();
+    /** A year for each date; most orders are made to hold with these, or few sites would start. */
+    private final int[] hidden = new int[8];
     private boolean well = true;
 
     private ModelTests(Check check, int number) {
@@ -51,15 +53,29 @@ public final class ModelTests {
         return near(0, Math.max(0, model.count(0) - 1));
     }
 
+    private int yearNear(int date) {
+        if (date < 0 || date >= hidden.length || random.nextInt(10) == 0) {
+            return near(0, 255);
+        }
+        return hidden[date] + random.nextInt(9) - 4;
+    }
+
     private void date() {
-        int first = near(0, 200);
-        int last = random.nextInt(12) == 0 ? near(0, 255) : first + random.nextInt(64);
+        int year = random.nextInt(3) == 0 ? random.nextInt(256) : 100 + random.nextInt(40);
+        int spread = random.nextInt(64);
+        int under = random.nextInt(spread + 1);
+        boolean odd = random.nextInt(25) == 0;
+        int first = odd ? near(0, 255) : Math.max(0, year - under);
+        int last = odd ? near(0, 255) : Math.min(255, year + spread - under);
+        if (model.count(0) < 8) {
+            hidden[model.count(0)] = year;
+        }
         both("date(" + first + ", " + last + ")", () -> model.date(first, last), () -> x.date(first, last));
     }
 
     private void weight() {
         int date = anyDate();
-        int year = near(0, 255);
+        int year = yearNear(date);
         int w = near(1, random.nextBoolean() ? 1000 : 5);
         both("weight(" + date + ", " + year + ", " + w + ")", () -> model.weight(date, year, w), () -> x.weight(date, year, w));
     }
@@ -67,8 +83,18 @@ public final class ModelTests {
     private void before() {
         int a = anyDate();
         int b = anyDate();
-        int least = random.nextInt(4) == 0 ? near(0, 255) : near(0, 10);
-        int most = random.nextInt(3) == 0 ? near(0, 255) : near(least, 255);
+        boolean odd = random.nextInt(25) == 0 || a < 0 || b < 0 || a > 7 || b > 7;
+        int behind = odd ? 0 : hidden[b] - hidden[a];
+        if (behind < 0) {
+            before(b, a, -behind, false);
+        } else {
+            before(a, b, behind, odd);
+        }
+    }
+
+    private void before(int a, int b, int behind, boolean odd) {
+        int least = odd ? near(0, 255) : behind - random.nextInt(Math.min(behind, 12) + 1);
+        int most = odd ? near(0, 255) : random.nextInt(5) == 0 ? 255 : Math.min(255, behind + random.nextInt(12));
         both("before(" + a + ", " + b + ", " + least + ", " + most + ")",
                 () -> model.before(a, b, least, most), () -> x.before(a, b, least, most));
     }
@@ -76,10 +102,10 @@ public final class ModelTests {
     private void settings() {
         int kind = random.nextInt(3);
         if (kind == 0) {
-            int steps = near(0, random.nextBoolean() ? 100 : 8);
+            int steps = near(0, random.nextInt(8) == 0 ? 100 : 8);
             both("burn(" + steps + ")", () -> model.burn(steps), () -> x.burn(steps));
         } else if (kind == 1) {
-            int every = near(1, 20);
+            int every = near(1, random.nextInt(3) == 0 ? 20 : 4);
             both("thin(" + every + ")", () -> model.thin(every), () -> x.thin(every));
         } else {
             int date = anyDate();
@@ -89,13 +115,13 @@ public final class ModelTests {
     }
 
     private void course() {
-        int kind = random.nextInt(10);
-        if (kind < 3) {
+        int kind = random.nextInt(20);
+        if (kind < 1) {
             both("start()", model::start, x::start);
-        } else if (kind < 8) {
+        } else if (kind < 15) {
             int steps = random.nextInt(4) == 0 ? near(0, 100) : near(0, 12);
             both("run(" + steps + ")", () -> model.run(steps), () -> x.run(steps));
-        } else if (kind == 8) {
+        } else if (kind < 17) {
             both("save()", model::save, x::save);
         } else {
             int which = near(0, Math.max(0, model.count(5) - 1));
@@ -105,7 +131,7 @@ public final class ModelTests {
 
     private void look() {
         int date = anyDate();
-        int year = near(0, 255);
+        int year = yearNear(date);
         switch (random.nextInt(6)) {
             case 0:
                 int chain = near(0, model.count(2) - 1);
@@ -123,7 +149,7 @@ public final class ModelTests {
                 break;
             case 4:
                 int phase = near(0, 3);
-                int years = random.nextBoolean() ? year : near(0, 12);
+                int years = near(0, random.nextInt(4) == 0 ? 255 : 30);
                 both("spans(" + phase + ", " + years + ")", () -> model.spans(phase, years), () -> x.spans(phase, years));
                 break;
             default:
@@ -173,21 +199,21 @@ public final class ModelTests {
     private void go() {
         build();
         while (well && calls.size() <= CALLS) {
-            int kind = random.nextInt(200);
+            int kind = random.nextInt(400);
             if (kind == 0) {
                 date();
             } else if (kind == 1) {
                 weight();
             } else if (kind == 2) {
                 before();
-            } else if (kind < 30) {
+            } else if (kind < 50) {
                 settings();
-            } else if (kind < 90) {
+            } else if (kind < 170) {
                 course();
             } else {
                 look();
             }
-            // What is looked at here is not counted as a call: it changes nothing.
+            // Without a start behind a change, most of the run would be refused calls.
             if (kind < 3) {
                 both("start()", model::start, x::start);
             }

@@ -202,6 +202,7 @@ public final class PromiseTests {
         due("a refused order leaves rows", 3, () -> full.count(3));
         due("a refused order leaves saved states", 1, () -> full.count(5));
         ordersHold();
+        exactBounds();
     }
 
     private static void ordersHold() {
@@ -223,6 +224,32 @@ public final class PromiseTests {
             }
         }
         CHECK.that("least and most are both met", seen[4] && seen[6]);
+    }
+
+    /** Each date's low and high year by an order, at both of its ends, within wide first and last. */
+    private static void exactBounds() {
+        SeedChains x = new SeedChains(19, 1);
+        x.date(0, 63);
+        x.date(0, 63);
+        x.before(0, 1, 4, 9);
+        x.start();
+        x.run(60);
+        int a = 0;
+        int b = 4;
+        long state = 19;
+        for (int i = 0; i < 60; i++) {
+            int row = i;
+            state = next(state);
+            a = drawn(Math.max(0, b - 9), Math.min(63, b - 4), state);
+            due("a year before another", a, () -> x.at(0, row, 0));
+            state = next(state);
+            b = drawn(Math.max(0, a + 4), Math.min(63, a + 9), state);
+            due("a year behind another", b, () -> x.at(0, row, 1));
+        }
+    }
+
+    private static int drawn(int low, int high, long state) {
+        return low + (int) ((state >>> 33) % (high - low + 1));
     }
 
     private static void promise5() {
@@ -337,6 +364,19 @@ public final class PromiseTests {
         }
         due("start of a row", 0, row::start);
         due("end of a row", 63, () -> row.at(0, NONE, 7));
+        SeedChains pulled = new SeedChains(1, 1);
+        for (int i = 0; i < 7; i++) {
+            pulled.date(0, 63);
+        }
+        pulled.date(63, 63);
+        for (int i = 0; i < 7; i++) {
+            pulled.before(i, i + 1, 0, 5);
+        }
+        due("start of a row that is pulled up from its end", 0, pulled::start);
+        for (int i = 0; i < 8; i++) {
+            int date = i;
+            due("pulled up", 63 - 5 * (7 - date), () -> pulled.at(0, NONE, date));
+        }
         row.before(0, 7, 0, 62);
         due("a row that is a year too long", 1, row::start);
     }
@@ -485,7 +525,10 @@ public final class PromiseTests {
         }
         CHECK.that("all rows are counted", together == 14);
         x.start();
-        due("no rows", 0, () -> x.counted(0, 10));
+        for (int year = 10; year <= 20; year++) {
+            int y = year;
+            due("old rows are not counted", 0, () -> x.counted(0, y));
+        }
         x.date(1, 2);
         state("counted, not started", () -> x.counted(0, 10));
         noElement("counted, not started, no year", () -> x.counted(0, 9));
@@ -515,6 +558,8 @@ public final class PromiseTests {
         CHECK.that("the chains are apart", want > 0);
         due("apart", want, () -> x.apart(0));
         due("a date of one year", 0, () -> x.apart(1));
+        x.start();
+        due("old rows are not summed", 0, () -> x.apart(0));
         noElement("apart, date -1", () -> x.apart(-1));
         noElement("apart, date 2", () -> x.apart(2));
         for (int far : FAR) {
@@ -615,6 +660,8 @@ public final class PromiseTests {
         x.run(2);
         due("from the first to the last, whatever their numbers", 6, () -> x.spans(3, 255));
         due("not between neighbours", 0, () -> x.spans(3, 100));
+        x.member(2, 1);
+        due("the last year alone", 6, () -> x.spans(1, 0));
     }
 
     private static void promise15() {
@@ -665,6 +712,25 @@ public final class PromiseTests {
         due("back behind a start", 27, () -> x.back(1));
         stillBut(x, 27);
         due("both stay", 2, () -> x.count(5));
+        // Other rows stand in between, so that the saved ones must truly come back.
+        x.start();
+        x.thin(3);
+        x.run(60);
+        x.save();
+        due("back to other rows", 7, () -> x.back(0));
+        stillBut(x, 7);
+        due("back to more rows", 27, () -> x.back(1));
+        stillBut(x, 27);
+        SeedChains thinned = ready();
+        thinned.start();
+        thinned.thin(3);
+        thinned.run(60);
+        due("back to thinned rows", 20, () -> x.back(2));
+        due("with all steps", 60, () -> x.count(4));
+        for (int i = 0; i < 20; i++) {
+            int row = i;
+            due("a thinned row", thinned.at(1, row, 0), () -> x.at(1, row, 0));
+        }
     }
 
     /** As one that ran so many steps without a save. */
