@@ -5,7 +5,9 @@ import java.util.Random;
 /** Long mixed runs of calls, right and wrong ones, answered by the class as by the model. */
 public final class ModelTests {
     private static final int RUNS = 250;
+    /** Nothing is promised behind an object's 512th call; the last of them look at what has come of the others. */
     private static final int CALLS = 512;
+    private static final int LAST_LOOKS = 120;
 
     private final Check check;
     private final Random random;
@@ -159,7 +161,7 @@ public final class ModelTests {
         }
     }
 
-    /** All that can be seen, so that no call changed what it should leave alone. */
+    /** With the calls that are left: that no call changed what it should leave alone. */
     private void lookAtAll() {
         for (int what = 0; what <= 5; what++) {
             int w = what;
@@ -169,13 +171,12 @@ public final class ModelTests {
             int date = d;
             both("apart(" + date + ")", () -> model.apart(date), () -> x.apart(date));
             both("agreement(" + date + ")", () -> model.agreement(date), () -> x.agreement(date));
-            for (int c = 0; c < model.count(2); c++) {
-                for (int r = -1; r < model.count(3); r++) {
-                    int chain = c;
-                    int row = r;
-                    both("at", () -> model.at(chain, row, date), () -> x.at(chain, row, date));
-                }
-            }
+        }
+        while (calls.size() <= CALLS) {
+            int chain = random.nextInt(model.count(2));
+            int row = random.nextInt(model.count(3) + 1) - 1;
+            int date = random.nextInt(Math.max(1, model.count(0)));
+            both("at(" + chain + ", " + row + ", " + date + ")", () -> model.at(chain, row, date), () -> x.at(chain, row, date));
         }
     }
 
@@ -198,7 +199,7 @@ public final class ModelTests {
 
     private void go() {
         build();
-        while (well && calls.size() <= CALLS) {
+        while (well && calls.size() <= CALLS - LAST_LOOKS) {
             int kind = random.nextInt(400);
             if (kind == 0) {
                 date();

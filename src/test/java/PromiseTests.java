@@ -213,12 +213,13 @@ public final class PromiseTests {
         y.before(0, 1, 4, 6);
         y.before(2, 1, 0, 20);
         y.start();
-        y.run(60);
+        y.run(40);
         boolean[] seen = new boolean[7];
         for (int chain = 0; chain < 4; chain++) {
-            for (int row = 0; row < 60; row++) {
-                int behind = y.at(chain, row, 1) - y.at(chain, row, 0);
-                int other = y.at(chain, row, 1) - y.at(chain, row, 2);
+            for (int row = 0; row < 40; row++) {
+                int year = y.at(chain, row, 1);
+                int behind = year - y.at(chain, row, 0);
+                int other = year - y.at(chain, row, 2);
                 CHECK.that("orders hold in rows", behind >= 4 && behind <= 6 && other >= 0 && other <= 20);
                 seen[Math.max(0, Math.min(6, behind))] = true;
             }
@@ -712,7 +713,14 @@ public final class PromiseTests {
         due("back behind a start", 27, () -> x.back(1));
         stillBut(x, 27);
         due("both stay", 2, () -> x.count(5));
-        // Other rows stand in between, so that the saved ones must truly come back.
+        otherRowsBetween();
+    }
+
+    /** Other rows stand in between, so that the saved ones must truly come back. */
+    private static void otherRowsBetween() {
+        SeedChains x = ready();
+        x.run(20);
+        x.save();
         x.start();
         x.thin(3);
         x.run(60);
